@@ -129,12 +129,9 @@ public final class LandTest {
             LightsMarket x = new LightsMarket();
             x.place();
             int[] g = good[i];
-            c.due("good mill " + i, 0, () -> x.mill(0, g[0], i(g), g[1], g[2], g[3], g[4], g[5], g[6]));
+            int house = i % 3;
+            c.due("good mill " + i, 0, () -> x.mill(0, g[0], house, g[1], g[2], g[3], g[4], g[5], g[6]));
         }
-    }
-
-    private static int i(int[] g) {
-        return g[1] % 3;
     }
 
     private static void sheets() {
@@ -182,7 +179,6 @@ public final class LandTest {
         c.due("far below", 3, () -> x.write(0, Integer.MIN_VALUE, 0));
     }
 
-    /** What is on a SHEET is seen by laying it into LOADS and reading bills' quarters is dear: day() tells it. */
     private static void copies() {
         LightsMarket x = new LightsMarket();
         x.sheet(0, 6);
