@@ -15,7 +15,7 @@ public final class LightsMarket {
     private static final int ALL_ON = 15;
     private static final int NOTHING_HIDDEN = 0;
     /** What stands in for a PRICE that can't be met; -1 may be a true PRICE, so NONE can't. */
-    private static final int NO_PRICE = Integer.MIN_VALUE;
+    private static final int NO_PRICE = -1000000000;
     private static final int DEAREST = 9999;
 
     private final Land land;
@@ -1290,20 +1290,42 @@ public final class LightsMarket {
         /** THE LEAST, its units kept in units; NONE: there is none, units stay. */
         int search(int on, int w, int hidden, int silentHouse) {
             best = NONE;
-            if (land.wholeOf(0) == 0 || !span(on, w, hidden, silentHouse)) {
-                return NONE;
-            }
-            for (int a = low[0]; a <= high[0]; a++) {
-                for (int b = low[1]; b <= high[1]; b++) {
-                    for (int c = low[2]; c <= high[2]; c++) {
-                        int d = total - a - b - c;
-                        if (d >= low[3] && d <= high[3]) {
-                            weigh(a, b, c, d);
-                        }
-                    }
-                }
+            if (land.wholeOf(0) != 0 && span(on, w, hidden, silentHouse)) {
+                choose(0, total, 0);
             }
             return best;
+        }
+
+        /**
+         * Tries all rows of units from MILL m on, with so many units left and so much coin so far.
+         * A row that isn't cheaper is left: of like ones the first found is the first as a row.
+         */
+        private void choose(int m, int left, int coin) {
+            if (best != NONE && coin >= best) {
+                return;
+            }
+            if (m < 0 || m >= MILLS) {
+                if (left == 0 && fits()) {
+                    best = coin;
+                    System.arraycopy(trial, 0, units, 0, MILLS);
+                }
+                return;
+            }
+            for (int u = low[m]; u <= high[m] && u <= left && u <= MOST_UNITS; u++) {
+                if (u >= 0 && left - u <= roomBehind(m)) {
+                    trial[m] = u;
+                    choose(m + 1, left - u, coin + sums[m][u]);
+                }
+            }
+        }
+
+        /** What all MILLS behind m can make at most. */
+        private int roomBehind(int m) {
+            int room = 0;
+            for (int i = m + 1; i < MILLS; i++) {
+                room += high[i];
+            }
+            return room;
         }
 
         /** From where to where each MILL may go; false: one can't be. */
@@ -1339,27 +1361,6 @@ public final class LightsMarket {
                 return w;
             }
             return Math.max(0, Math.min(mill.reach(quarter), mill.most - hidden));
-        }
-
-        private void weigh(int a, int b, int c, int d) {
-            trial[0] = a;
-            trial[1] = b;
-            trial[2] = c;
-            trial[3] = d;
-            int coin = 0;
-            for (int m = 0; m < MILLS; m++) {
-                if (trial[m] < 0 || trial[m] > MOST_UNITS) {
-                    return;
-                }
-                coin += sums[m][trial[m]];
-            }
-            // only less is better: of like ones the first found is the first as a row
-            if ((best == NONE || coin < best) && fits()) {
-                best = coin;
-                for (int m = 0; m < MILLS; m++) {
-                    units[m] = trial[m];
-                }
-            }
         }
 
         private boolean fits() {
@@ -1436,6 +1437,7 @@ public final class LightsMarket {
         private int switched;
         private int waterMost;
         private int stream;
+        private int mostLake;
         private int pickedOn;
         private int pickedW;
 
@@ -1451,6 +1453,7 @@ public final class LightsMarket {
             waterMost = land.waterMost();
             stream = water == NONE ? 0 : land.millAt(water).stream;
             int lake = water == NONE ? 0 : land.millAt(water).lake;
+            mostLake = water == NONE ? 0 : LAKES - 1;
             switched = 0;
             for (int m = 0; m < land.mills && m < MILLS; m++) {
                 switched |= land.millAt(m).switched() ? 1 << m : 0;
@@ -1493,7 +1496,7 @@ public final class LightsMarket {
         private void fillRest(int q) {
             for (int before = 0; before < ONS; before++) {
                 for (int lake = 0; lake < LAKES; lake++) {
-                    boolean can = (before & ~switched) == 0;
+                    boolean can = (before & ~switched) == 0 && lake <= mostLake;
                     rest[q][before * LAKES + lake] = can ? cheapest(q, before, lake) : IMPOSSIBLE;
                 }
             }
@@ -1688,7 +1691,9 @@ public final class LightsMarket {
         }
 
         private int play() {
-            Arrays.fill(seen, false);
+            for (int s = 0; s < STATES; s++) {
+                seen[s] = false;
+            }
             state = NOTHING_HIDDEN;
             seen[NOTHING_HIDDEN] = true;
             for (int round = 1; round <= STATES; round++) {

@@ -269,13 +269,15 @@ public final class GameTest {
         LightsMarket x = one(3);
         x.mill(0, 0, 0, 4, 10, 0, 0, 0, 0);
         x.mill(0, 1, 2, 4, 50, 0, 3, 9999, 999);
-        x.game(0);
+        c.due("a game", 2, () -> x.game(0));
         house(x, 0, 1, 120, 0);
-        x.game(1);
+        c.due("another one", 1, () -> x.game(1));
         house(x, 0, 0, 160, 160);
         c.missing("no such quarter", () -> x.game(4));
         house(x, 0, 0, 160, 160);
-        x.game(2);
+        c.due("a third one, nothing being hidden again", 2, () -> x.game(2));
+        house(x, 0, 1, 120, 0);
+        c.due("and the first again", 2, () -> x.game(0));
         house(x, 0, 1, 120, 0);
     }
 
@@ -296,7 +298,8 @@ public final class GameTest {
         LightsMarket y = one(2);
         y.mill(0, 0, 0, 7, 10, 3, 0, 0, 0);
         y.mill(0, 0, 1, 2, 10, 0, 0, 0, 0);
-        c.no("its least is in the way of all, not without it", () -> y.alone(0, 0));
+        c.due("its least is in the way of all", -1, () -> y.least(0, 3, 0));
+        c.no("but not without it", () -> y.alone(0, 0));
         c.yes("there is none anyway", () -> y.alone(2, 0));
     }
 

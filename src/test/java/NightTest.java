@@ -94,6 +94,10 @@ public final class NightTest {
         LightsMarket y = one(0, 1, 2, 3, 4);
         c.yes("four", () -> y.night(0, 0x4321, 1, 0));
         c.due("made", 10, () -> y.ofNight(4));
+        c.no("3 of 2", () -> y.night(0, 0x4331, 1, 0));
+        c.no("5 of 4", () -> y.night(0, 0x5321, 1, 0));
+        c.no("2 of 1", () -> y.night(0, 0x4322, 1, 0));
+        c.no("4 of 3", () -> y.night(0, 0x4421, 1, 0));
         c.yes("four and bits", () -> y.night(0, 0xffff0021, 1, 0));
         c.due("made", 3, () -> y.ofNight(4));
         LightsMarket z = new LightsMarket();
@@ -275,6 +279,9 @@ public final class NightTest {
         state(x, 48650, 3, 1, 0, 0);
         x.minutes(100);
         state(x, 48650, 103, 1, 0, 0);
+        x.night(0, 0, 1, -4);
+        x.minutes(10);
+        state(x, 48650, 10, 1, 0, 0);
     }
 
     private static void darkness() {

@@ -332,6 +332,12 @@ public final class OfferTest {
         faulty("price (((((foo;", 3, 11);
         faulty("when 1 or when 1;", 3, 10);
         faulty("price a;", 3, 6);
+        faulty("price z;", 3, 6);
+        faulty("price azz;", 3, 6);
+        faulty("price xnit;", 3, 6);
+        faulty("price unix;", 3, 6);
+        faulty("zprice 7;", 1, 0);
+        faulty("xrice 7;", 1, 0);
         faulty("price 12z;", 1, 8);
         faulty("price unit7;", 1, 10);
     }

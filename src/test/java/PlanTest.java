@@ -349,6 +349,12 @@ public final class PlanTest {
         pays(x, 0, 21, 54, 32);
         c.due("plan without a start", 21, () -> x.plan(1, 1));
         pays(x, 0, 21, 21, 0);
+        LightsMarket y = one(7, 6, 0, 0);
+        y.mill(0, 0, 0, 7, 5, 0, 0, 9, 0);
+        Setup.offer(y, 0, "price unit;");
+        c.due("seven units, then six", 9 + 28 + 21, () -> y.plan(2, 0));
+        price(y, 0, -1, 7);
+        pays(y, 0, 7 * 9999 + 42, 9 + 28 + 21, 0);
     }
 
     private static void linesEarn() {
@@ -366,6 +372,10 @@ public final class PlanTest {
         pays(x, 0, 4 + 3, 7, 0);
         pays(x, 1, 18 + 9, 27, 0);
         c.due("lines earn what parts the prices", 3 * 8 + 3 * 8, () -> x.pays(-1, 0));
+        x.plan(1, 3);
+        c.due("of one quarter", 3 * 8, () -> x.pays(-1, 0));
+        x.plan(2, 3);
+        c.due("of two again", 3 * 8 + 3 * 8, () -> x.pays(-1, 0));
     }
 
     private static void snapshot() {
