@@ -884,13 +884,10 @@ public final class LightsMarket {
             for (int i = 0; i < LONGEST && isLetter(byteAt(next)); i++) {
                 next++;
             }
-            value = valueWord();
-            if (value == Offer.UNKNOWN) {
-                value = ruleWord();
-            }
+            value = wordCode();
         }
 
-        private int valueWord() {
+        private int wordCode() {
             if (reads("unit")) {
                 return Offer.UNIT;
             }
@@ -903,10 +900,9 @@ public final class LightsMarket {
             if (reads("true")) {
                 return Offer.TRUE;
             }
-            return reads("most") ? Offer.MOST : Offer.UNKNOWN;
-        }
-
-        private int ruleWord() {
+            if (reads("most")) {
+                return Offer.MOST;
+            }
             if (reads("price")) {
                 return Offer.PRICE;
             }
@@ -923,11 +919,11 @@ public final class LightsMarket {
         }
 
         private boolean reads(String word) {
-            if (word.length() != next - start) {
+            if (start < 0 || next > LONGEST || word.length() != next - start) {
                 return false;
             }
             for (int i = 0; i < word.length(); i++) {
-                if (byteAt(start + i) != word.charAt(i)) {
+                if (tape[start + i] != word.charAt(i)) {
                     return false;
                 }
             }
