@@ -18,6 +18,8 @@ public final class GameTest {
         likeGains();
         goesRoundToTheFirst();
         goesRoundToALaterOne();
+        allHideTwo();
+        restsInFour();
         latest();
         alone();
         aloneWithWater();
@@ -263,6 +265,53 @@ public final class GameTest {
         c.due("hidden by 2", 2, () -> x.hides(2, 0));
         c.due("gain of 1", 50, () -> x.hides(1, 1));
         c.due("gain of 2", 49970, () -> x.hides(2, 1));
+    }
+
+    private static void allHideTwo() {
+        LightsMarket x = new LightsMarket();
+        Setup.places(x, 3);
+        x.line(0, 1, 1, 4);
+        x.line(1, 2, 2, 1);
+        x.sheet(0, 4);
+        x.mill(0, 3, 2, 5, 35, 0, 0, 0, 0);
+        x.mill(1, 0, 2, 7, 0, 0, 0, 0, 0);
+        x.mill(1, 0, 0, 7, 5, 0, 0, 0, 0);
+        x.mill(2, 0, 1, 3, 20, 0, 0, 0, 0);
+        Setup.comes(x, 0, 0, 6, 6, 6, 6);
+        Setup.loads(x, 0, 0, 5, 5, 5, 5);
+        Setup.loads(x, 0, 1, 7, 7, 7, 7);
+        Setup.loads(x, 0, 2, 2, 2, 2, 2);
+        c.due("all hide two", 2, () -> x.game(0));
+        c.due("hidden by 0", 2, () -> x.hides(0, 0));
+        c.due("hidden by 1", 2, () -> x.hides(1, 0));
+        c.due("hidden by 2", 2, () -> x.hides(2, 0));
+        c.due("gain of 0", 49970, () -> x.hides(0, 1));
+        c.due("gain of 1", 9979, () -> x.hides(1, 1));
+        c.due("gain of 2", 79887, () -> x.hides(2, 1));
+    }
+
+    private static void restsInFour() {
+        LightsMarket x = new LightsMarket();
+        Setup.places(x, 3);
+        x.line(0, 1, 1, 6);
+        x.line(1, 2, 2, 5);
+        x.line(0, 2, 3, 5);
+        x.sheet(0, 4);
+        x.mill(1, 0, 0, 7, 30, 5, 0, 0, 0);
+        x.mill(0, 0, 2, 3, 15, 0, 0, 0, 0);
+        x.mill(1, 3, 0, 6, 35, 0, 0, 0, 0);
+        x.mill(2, 0, 1, 6, 25, 4, 0, 0, 0);
+        Setup.comes(x, 0, 2, 2, 2, 2, 2);
+        Setup.loads(x, 0, 0, 6, 6, 6, 6);
+        Setup.loads(x, 0, 1, 1, 1, 1, 1);
+        Setup.loads(x, 0, 2, 3, 3, 3, 3);
+        c.due("four rounds", 4, () -> x.game(0));
+        c.due("hidden by 0", 2, () -> x.hides(0, 0));
+        c.due("hidden by 1", 2, () -> x.hides(1, 0));
+        c.due("hidden by 2", 2, () -> x.hides(2, 0));
+        c.due("gain of 0", 25, () -> x.hides(0, 1));
+        c.due("gain of 1", 40, () -> x.hides(1, 1));
+        c.due("gain of 2", 20, () -> x.hides(2, 1));
     }
 
     private static void latest() {

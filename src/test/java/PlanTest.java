@@ -7,6 +7,7 @@ public final class PlanTest {
         nothingKept();
         starts();
         startQuarters();
+        fourOn();
         waiting();
         onAtFirst();
         lake();
@@ -138,6 +139,18 @@ public final class PlanTest {
         c.due("it can't be on in quarter 0", -1, () -> y.plan(1, 0));
         c.due("nor in four", -1, () -> y.plan(4, 0));
         c.due("on at first it is", 4, () -> y.plan(4, 1));
+    }
+
+    private static void fourOn() {
+        LightsMarket x = one(4, 3, 0, 0);
+        for (int m = 0; m < 4; m++) {
+            x.mill(0, m % 2, 0, 1, m, 0, 0, 5, m % 2);
+        }
+        c.due("four have to be on; three would do then, but waiting costs", 6 + 3 * 5 + 3, () -> x.plan(2, 8));
+        planned(x, 0, 15, 15);
+        planned(x, 1, 6, 3);
+        planned(x, 7, 1, 0);
+        price(x, 0, -1, 3);
     }
 
     private static void waiting() {

@@ -21,6 +21,7 @@ public final class QuarterTest {
         ways();
         fallen();
         fallenBridge();
+        fiveLines();
         slack();
         kept();
         c.end();
@@ -365,6 +366,27 @@ public final class QuarterTest {
         y.rules(true, 0, 100);
         c.due("the second can't alone", -1, () -> y.least(0, 1, 0));
         c.due("four it can", 4, () -> y.least(1, 1, 0));
+    }
+
+    /** The fifth line carries most, till it falls. */
+    private static void fiveLines() {
+        LightsMarket x = new LightsMarket();
+        Setup.places(x, 2);
+        for (int i = 0; i < 4; i++) {
+            x.line(0, 1, 1, 1);
+        }
+        x.line(1, 0, 9, 9);
+        x.sheet(0, 4);
+        x.mill(0, 0, 0, 7, 1, 0, 0, 0, 0);
+        Setup.loads(x, 0, 1, 6, 4, 5, 0);
+        c.due("six by thirteenths", 6, () -> x.least(0, 1, 0));
+        x.rules(true, 0, 100);
+        c.due("six by quarters", -1, () -> x.least(0, 1, 0));
+        c.due("five by quarters", -1, () -> x.least(2, 1, 0));
+        c.due("four by quarters", 4, () -> x.least(1, 1, 0));
+        x.rules(true, 1, 100);
+        c.due("six with slack", 6, () -> x.least(0, 1, 0));
+        flow(x, 4, 0, 1, -9, 13);
     }
 
     private static void slack() {
