@@ -13,6 +13,8 @@ final class Check {
     }
 
     private final String test;
+    private String words = "";
+    private int sentences;
     private int wrong;
     private int all;
 
@@ -31,6 +33,16 @@ final class Check {
             e.printStackTrace(System.out);
             return OTHER;
         }
+    }
+
+    /** The words of the document that the answers are asked by; at least one answer has to be looked at. */
+    void sentence(String ofDocument, Runnable answers) {
+        words = "'" + ofDocument + "': ";
+        int before = all;
+        answers.run();
+        same("answers looked at", 1, all > before ? 1 : 0);
+        words = "";
+        sentences++;
     }
 
     void due(String what, long want, Call call) {
@@ -58,7 +70,7 @@ final class Check {
         if (want != got) {
             wrong++;
             if (wrong <= 40) {
-                System.out.println(test + ": " + what + " answered " + name(got) + ", due is " + name(want));
+                System.out.println(test + ": " + words + what + " answered " + name(got) + ", due is " + name(want));
             }
         }
     }
@@ -78,7 +90,8 @@ final class Check {
     }
 
     void end() {
-        System.out.println(test + ": " + all + " answers, " + wrong + " wrong");
+        String of = sentences > 0 ? " to " + sentences + " sentences" : "";
+        System.out.println(test + ": " + all + " answers" + of + ", " + wrong + " wrong");
         if (wrong > 0) {
             System.exit(1);
         }

@@ -228,17 +228,7 @@ public final class GameTest {
     }
 
     private static void goesRoundToTheFirst() {
-        LightsMarket x = new LightsMarket();
-        Setup.places(x, 2);
-        x.line(0, 1, 3, 4);
-        x.sheet(0, 4);
-        x.mill(1, 3, 0, 2, 35, 0, 0, 0, 0);
-        x.mill(0, 0, 0, 6, 30, 1, 0, 0, 0);
-        x.mill(1, 0, 2, 3, 10, 0, 0, 0, 0);
-        x.mill(0, 0, 1, 5, 35, 0, 0, 0, 0);
-        Setup.comes(x, 0, 0, 5, 5, 5, 5);
-        Setup.loads(x, 0, 0, 2, 2, 2, 2);
-        Setup.loads(x, 0, 1, 5, 5, 5, 5);
+        LightsMarket x = Setup.goesRoundToTheFirst();
         c.due("as at first behind two rounds", -3, () -> x.game(0));
         house(x, 0, 0, 0, 0);
         house(x, 1, 0, 0, 0);
@@ -246,19 +236,7 @@ public final class GameTest {
     }
 
     private static void goesRoundToALaterOne() {
-        LightsMarket x = new LightsMarket();
-        Setup.places(x, 3);
-        x.line(0, 1, 2, 6);
-        x.line(1, 2, 3, 2);
-        x.line(0, 2, 2, 1);
-        x.sheet(0, 4);
-        x.mill(1, 0, 1, 1, 35, 1, 0, 0, 0);
-        x.mill(1, 0, 1, 4, 10, 0, 0, 0, 0);
-        x.mill(0, 0, 2, 7, 35, 0, 0, 0, 0);
-        x.mill(2, 0, 2, 7, 5, 1, 0, 0, 0);
-        Setup.loads(x, 0, 0, 1, 1, 1, 1);
-        Setup.loads(x, 0, 1, 6, 6, 6, 6);
-        Setup.loads(x, 0, 2, 4, 4, 4, 4);
+        LightsMarket x = Setup.goesRoundToALaterOne();
         c.due("as behind an earlier round", -4, () -> x.game(0));
         c.due("hidden by 0", 0, () -> x.hides(0, 0));
         c.due("hidden by 1", 2, () -> x.hides(1, 0));

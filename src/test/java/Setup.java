@@ -42,4 +42,38 @@ final class Setup {
         tell(x, text);
         return x.offer(mill, text.length());
     }
+
+    /** Its GAME in QUARTER 0 is behind the second ROUND as at first. */
+    static LightsMarket goesRoundToTheFirst() {
+        LightsMarket x = new LightsMarket();
+        places(x, 2);
+        x.line(0, 1, 3, 4);
+        x.sheet(0, 4);
+        x.mill(1, 3, 0, 2, 35, 0, 0, 0, 0);
+        x.mill(0, 0, 0, 6, 30, 1, 0, 0, 0);
+        x.mill(1, 0, 2, 3, 10, 0, 0, 0, 0);
+        x.mill(0, 0, 1, 5, 35, 0, 0, 0, 0);
+        comes(x, 0, 0, 5, 5, 5, 5);
+        loads(x, 0, 0, 2, 2, 2, 2);
+        loads(x, 0, 1, 5, 5, 5, 5);
+        return x;
+    }
+
+    /** Its GAME in QUARTER 0 is behind the third ROUND as behind an earlier one. */
+    static LightsMarket goesRoundToALaterOne() {
+        LightsMarket x = new LightsMarket();
+        places(x, 3);
+        x.line(0, 1, 2, 6);
+        x.line(1, 2, 3, 2);
+        x.line(0, 2, 2, 1);
+        x.sheet(0, 4);
+        x.mill(1, 0, 1, 1, 35, 1, 0, 0, 0);
+        x.mill(1, 0, 1, 4, 10, 0, 0, 0, 0);
+        x.mill(0, 0, 2, 7, 35, 0, 0, 0, 0);
+        x.mill(2, 0, 2, 7, 5, 1, 0, 0, 0);
+        loads(x, 0, 0, 1, 1, 1, 1);
+        loads(x, 0, 1, 6, 6, 6, 6);
+        loads(x, 0, 2, 4, 4, 4, 4);
+        return x;
+    }
 }
