@@ -243,6 +243,12 @@ public final class NightSentencesTest {
             c.due("till 1000", 47100, () -> x.minutes(987));
             c.refused("not beyond", () -> x.minutes(1));
             state(x, 47100, 1000, 3, 1, 4);
+            c.yes("the next NIGHT", () -> x.night(1, 1, 1, 0b11100100));
+            state(x, 50000, 0, 0, 0, 1);
+            x.minutes(1);
+            state(x, 50000, 1, 0, 0, 1);
+            x.night(0, 1, 1, 0b11100100);
+            c.due("isn't DARK at first", 48250, () -> x.minutes(1));
         });
     }
 
@@ -283,6 +289,14 @@ public final class NightSentencesTest {
             c.no("4 of 3", () -> x.night(0, 0x74, 1, right));
             c.no("8 of 7", () -> x.night(0, 0x83, 1, right));
             c.no("15 of 7", () -> x.night(0, 0xf3, 1, right));
+            c.no("9 of 7", () -> x.night(0, 0x93, 1, right));
+            for (int most = 1; most <= 7; most++) {
+                LightsMarket y = one(0, most);
+                for (int units = 0; units < 16; units++) {
+                    int told = units;
+                    c.due(units + " of " + most, units <= most ? 1 : 0, () -> y.night(0, told, 1, 0) ? 1 : 0);
+                }
+            }
             for (int bad : new int[] {0, -1, 4, LOWEST, HIGHEST}) {
                 c.no("RAMP " + bad, () -> x.night(0, 0, bad, right));
             }

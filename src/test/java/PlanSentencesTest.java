@@ -9,6 +9,7 @@ public final class PlanSentencesTest {
         water();
         onAtFirst();
         starts();
+        staysOn();
         coin();
         likeOnes();
         prices();
@@ -181,6 +182,17 @@ public final class PlanSentencesTest {
         });
     }
 
+    private static void staysOn() {
+        c.sentence("A MILL that isn't ON ahead of a QUARTER", () -> {
+            LightsMarket x = one(1, 1, 1, 1);
+            x.mill(0, 0, 0, 7, 10, 0, 0, 0, 0);
+            x.mill(0, 0, 0, 7, 1, 0, 1, 15, 0);
+            c.due("one start, then it is ON", 10 + 15 + 3, () -> x.plan(4, 1));
+            planned(x, 0, 1, 2, 2, 2);
+            pays(x, 1, 3, 18, 15);
+        });
+    }
+
     private static void coin() {
         c.sentence("COIN of a PLAN: THE LEAST of each QUARTER, coin for starts, and for READY ones that aren't ON.", () -> {
             LightsMarket x = one(0, 2, 0, 0);
@@ -341,6 +353,10 @@ public final class PlanSentencesTest {
             Setup.offer(x, 0, "price unit;");
             c.due("3 and 1, two starts, two QUARTERS of waiting", 4 + 80 + 10, () -> x.plan(4, 0));
             pays(x, 0, 2 * 3 + 2, 94, 86);
+            LightsMarket y = one(7, 0, 0, 0);
+            y.mill(0, 0, 0, 7, 3, 0, 0, 40, 0);
+            y.plan(1, 0);
+            pays(y, 0, 7 * 9999, 7 * 3 + 40, 0);
         });
     }
 
@@ -355,6 +371,8 @@ public final class PlanSentencesTest {
             Setup.loads(x, 0, 1, 3, 0, 0, 0);
             x.plan(1, 3);
             c.due("3 at 8 less 2 at 1 and 1 at 8", 14, () -> x.pays(-1, 0));
+            x.plan(1, 3);
+            c.due("found once more", 14, () -> x.pays(-1, 0));
             LightsMarket y = one(2, 0, 0, 0);
             y.mill(0, 0, 0, 2, 1, 0, 0, 0, 0);
             y.plan(1, 1);

@@ -379,6 +379,21 @@ public final class QuarterSentencesTest {
             Setup.loads(x, 0, 1, 7, 7, 7, 7);
             c.due("7 by halves, SLACK is for FALLS alone", -1, () -> x.least(3, 1, 0));
         });
+        c.sentence("with any one LINE fallen", () -> {
+            LightsMarket x = new LightsMarket();
+            Setup.places(x, 3);
+            x.line(0, 1, 1, 3);
+            x.line(1, 2, 1, 3);
+            x.line(2, 0, 1, 3);
+            x.sheet(0, 4);
+            x.mill(0, 0, 0, 7, 1, 0, 0, 0, 0);
+            Setup.loads(x, 0, 1, 3, 4, 0, 0);
+            x.rules(true, 0, 100);
+            c.due("all 3 go the one way or the other, on the fallen one goes nothing", 3, () -> x.least(0, 1, 0));
+            c.due("4 don't", -1, () -> x.least(1, 1, 0));
+            x.rules(false, 0, 100);
+            c.due("by thirds they do", 4, () -> x.least(1, 1, 0));
+        });
         c.sentence("(one that parts the PLACES isn't asked)", () -> {
             LightsMarket x = new LightsMarket();
             Setup.places(x, 3);
